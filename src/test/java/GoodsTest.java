@@ -96,8 +96,8 @@ public final class GoodsTest {
         DUE.is("the cheapest up", 100, x.price(1, 1));
         DUE.is("the cheapest nearest", 0, x.price(1, 2));
         // 10000 PARTS of each NEW PRICE by RULE 1, less 10000 and less 1 of the PRICES
-        DUE.is("GAINS up", 100L * 0 + 100L * (10000 - 1), x.gain(1));
-        DUE.is("GAINS down", 100L * 0 - 100L * 1, x.gain(0));
+        DUE.is("GAINS up", 100 * (10000 - 1), x.gain(1));
+        DUE.is("GAINS down", -100, x.gain(0));
     }
 
     /** Every rule against a search through all multiples of the STEP. */
