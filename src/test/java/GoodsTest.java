@@ -34,6 +34,11 @@ public final class GoodsTest {
         }
         DUE.is("a fifteenth GOOD", NONE, x.good(1, 1));
         DUE.is("GOODS", 14, x.about(2, 0));
+        DUE.is("price of the last one", 13, x.price(13, 0));
+        x.rate(1, 2);
+        // the PRICES 1, 3, 5 .. 13 are half a UNIT off, by one PART
+        DUE.is("gain of 14 GOODS", 3 + 5 + 7 + 9 + 11 + 13, x.gain(1));
+        DUE.is("gains of 14 GOODS", -(3 + 5 + 7 + 9 + 11) + 13, x.gains(1 << 13));
     }
 
     private static void soldNumbers() {

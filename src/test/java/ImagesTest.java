@@ -8,7 +8,9 @@ public final class ImagesTest {
         allThatIsToldComesBack();
         imagesStay();
         whatCameLaterIsGone();
+        twoLandsInTurn();
         sumsComeBack();
+        changeAfterAgain();
         DUE.end();
     }
 
@@ -27,6 +29,11 @@ public final class ImagesTest {
 
     private static NewCoins rich() {
         NewCoins x = new NewCoins();
+        makeRich(x);
+        return x;
+    }
+
+    private static void makeRich(NewCoins x) {
         x.rate(5, 12);
         x.step(5);
         x.coin(0, 12);
@@ -46,7 +53,6 @@ public final class ImagesTest {
         x.sale(1, 7, 1, 1, 3);
         x.expect(0, 3, 1, 1, 1);
         x.expect(1, 4, 1, 1, 2);
-        return x;
     }
 
     /** All answers that tell of the state, in a row. */
@@ -170,6 +176,68 @@ public final class ImagesTest {
         y.coin(1, 6);
         same("a TILL and COINS in the old places", told(y), told(x));
         DUE.is("rate, as no SALE was", true, x.rate(2, 2));
+    }
+
+    /** Like rich(), but with another number in each place. */
+    private static void becomeAnother(NewCoins x) {
+        x.rate(7, 9);
+        x.step(3);
+        x.coin(0, 40);
+        x.coin(0, 11);
+        x.coin(1, 2);
+        x.coin(1, 9);
+        x.good(41, 30);
+        x.good(999, 1);
+        x.till();
+        x.till();
+        x.put(0, 0, 0, 5);
+        x.put(0, 1, 0, 80);
+        x.put(0, 1, 1, 80);
+        x.put(1, 0, 1, 6);
+        x.put(1, 1, 1, 70);
+        x.draw(0);
+        x.sale(0, 9, 0, 0, 1);
+        x.sale(0, 4, 0, 0, 1);
+        x.sale(1, 9, 1, 1, 4);
+        x.expect(0, 5, 0, 1, 3);
+        x.expect(1, 1, 1, 1, 7);
+    }
+
+    private static void twoLandsInTurn() {
+        NewCoins x = rich();
+        NewCoins fresh = new NewCoins();
+        NewCoins y = new NewCoins();
+        becomeAnother(y);
+        fresh.image(0);
+        becomeAnother(fresh);
+        fresh.image(1);
+        fresh.again(0);
+        makeRich(fresh);
+        fresh.image(2);
+        same("the second land", told(x), told(fresh));
+        fresh.again(1);
+        same("the first land", told(y), told(fresh));
+        fresh.again(2);
+        same("the second land again", told(x), told(fresh));
+    }
+
+    private static void changeAfterAgain() {
+        NewCoins x = new NewCoins();
+        x.coin(1, 10);
+        x.coin(1, 1);
+        x.till();
+        x.put(0, 1, 1, 9);
+        x.image(0);
+        x.coin(1, 3);
+        x.put(0, 1, 2, 9);
+        DUE.is("with threes", 9, x.sale(0, 1, 1, 0, 1));
+        DUE.is("three of them", 3, x.given(0, 2));
+        x.again(0);
+        DUE.is("without threes", 9, x.sale(0, 1, 1, 0, 1));
+        DUE.is("a COIN in its place", 2, x.coin(1, 4));
+        DUE.is("none of it was given", 0, x.given(0, 2));
+        DUE.is("the TILL has none of it", 0, x.has(0, 1, 2));
+        DUE.is("PARTS of the TILL", 10, x.tell(0, 2));
     }
 
     private static void sumsComeBack() {

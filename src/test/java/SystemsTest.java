@@ -110,6 +110,16 @@ public final class SystemsTest {
         DUE.is("ahead of the SALE", true, x.again(0));
         DUE.is("rate ahead of the SALE", true, x.rate(3, 8));
         DUE.is("b then", 8, x.about(2, 3));
+        for (int till = 0; till < 4; till++) {
+            NewCoins y = new NewCoins();
+            y.coin(1, 5);
+            for (int i = 0; i < 4; i++) {
+                y.till();
+            }
+            DUE.is("rate with four TILLS", true, y.rate(2, 2));
+            y.sale(till, 5, 1, 0, 1);
+            DUE.is("rate after a SALE at TILL " + till, false, y.rate(3, 3));
+        }
     }
 
     private static void steps() {

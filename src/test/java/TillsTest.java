@@ -264,7 +264,10 @@ public final class TillsTest {
         DUE.is("one too many again", NONE, x.sale(0, 5, OLD, 0, 1));
         x.put(0, NEW, 0, 990);
         DUE.is("to the full", 0, x.sale(0, 10, NEW, 0, 10));
-        DUE.is("above 1000 as they come in", NONE, x.sale(0, 1, NEW, 0, 2));
+        DUE.is("above 1000", NONE, x.sale(0, 1, NEW, 0, 1));
+        x.put(0, NEW, 0, -1);
+        DUE.is("above 1000 as they come in, though one would go", NONE, x.sale(0, 1, NEW, 0, 2));
+        DUE.is("as many as before", 999, x.has(0, NEW, 0));
         DUE.is("the other COINS may come", 0, x.sale(0, 5, NEW, 1, 1));
     }
 
