@@ -199,7 +199,7 @@ public final class ImagesTest {
         x.sale(0, 9, 0, 0, 1);
         x.sale(0, 4, 0, 0, 1);
         x.sale(1, 9, 1, 1, 4);
-        x.expect(0, 5, 0, 1, 3);
+        x.expect(0, 5, 0, 0, 3);
         x.expect(1, 1, 1, 1, 7);
     }
 
