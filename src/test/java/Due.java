@@ -1,3 +1,5 @@
+import java.util.Map;
+
 /** Counts the answers that are not the ones that are due, and prints each of them. */
 final class Due {
     private int asked = 0;
@@ -16,6 +18,14 @@ final class Due {
         if (got != want) {
             wrong++;
             System.out.println(call + " answered " + got + ", due is " + want);
+        }
+    }
+
+    /** Each answer of what is told once must be that of what is told at another time. */
+    void same(String what, Map<String, Long> want, Map<String, Long> got) {
+        is(what + ", questions", want.size(), got.size());
+        for (Map.Entry<String, Long> w : want.entrySet()) {
+            is(what + ", " + w.getKey(), w.getValue(), got.getOrDefault(w.getKey(), Long.MIN_VALUE));
         }
     }
 

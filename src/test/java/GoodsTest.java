@@ -198,24 +198,46 @@ public final class GoodsTest {
         DUE.is("GAINS of it", 0, x.gains(x.fairest()));
     }
 
-    /** FAIREST of up to 14 GOODS against all ways, each asked by gains. */
+    /** FAIREST of up to 14 GOODS against all ways, each reckoned from the NEW PRICES. */
     private static void fairestBySearch() {
         java.util.Random random = new java.util.Random(7);
         for (int run = 0; run < 12; run++) {
             NewCoins x = new NewCoins();
-            x.rate(1 + random.nextInt(100), 1 + random.nextInt(100));
+            int a = 1 + random.nextInt(100);
+            int b = 1 + random.nextInt(100);
+            x.rate(a, b);
             x.step(1 + random.nextInt(20));
             int goods = run < 2 ? 14 : 1 + random.nextInt(8);
+            long[][] gains = new long[goods][2];
             for (int g = 0; g < goods; g++) {
-                x.good(1 + random.nextInt(10000), random.nextInt(run % 3 == 0 ? 3 : 101));
-            }
-            int best = 0;
-            for (int way = 1; way < 1 << goods; way++) {
-                if (Math.abs(x.gains(way)) < Math.abs(x.gains(best))) {
-                    best = way;
+                int price = 1 + random.nextInt(10000);
+                int sold = random.nextInt(run % 3 == 0 ? 3 : 101);
+                x.good(price, sold);
+                for (int rule = 0; rule < 2; rule++) {
+                    gains[g][rule] = (long) (x.price(g, rule) * b - price * a) * sold;
                 }
             }
+            int best = fairestOf(gains);
             DUE.is("fairest of run " + run, best, x.fairest());
+            DUE.is("its GAINS", gainsOf(gains, best), x.gains(best));
         }
+    }
+
+    private static int fairestOf(long[][] gains) {
+        int best = 0;
+        for (int way = 1; way < 1 << gains.length; way++) {
+            if (Math.abs(gainsOf(gains, way)) < Math.abs(gainsOf(gains, best))) {
+                best = way;
+            }
+        }
+        return best;
+    }
+
+    private static long gainsOf(long[][] gains, int way) {
+        long all = 0;
+        for (int g = 0; g < gains.length; g++) {
+            all += gains[g][way >> g & 1];
+        }
+        return all;
     }
 }

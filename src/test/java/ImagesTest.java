@@ -1,3 +1,5 @@
+import java.util.Map;
+
 /** Promises 26 (image) and 27 (again). */
 public final class ImagesTest {
     private static final int NONE = NewCoins.NONE;
@@ -55,48 +57,6 @@ public final class ImagesTest {
         x.expect(1, 4, 1, 1, 2);
     }
 
-    /** All answers that tell of the state, in a row. */
-    private static long[] told(NewCoins x) {
-        long[] row = new long[600];
-        int i = 0;
-        for (int system = 0; system <= 2; system++) {
-            for (int what = 0; what < 44; what++) {
-                row[i++] = x.about(system, what);
-            }
-        }
-        for (int till = 0; till < 4; till++) {
-            for (int what = 0; what < 6; what++) {
-                row[i++] = x.tell(till, what);
-            }
-            for (int coin = 0; coin < 8; coin++) {
-                row[i++] = x.has(till, 0, coin);
-                row[i++] = x.has(till, 1, coin);
-                row[i++] = x.given(till, coin);
-                row[i++] = x.wanted(till, coin);
-            }
-        }
-        for (int coin = 0; coin < 8; coin++) {
-            row[i++] = x.drawn(coin);
-        }
-        for (int system = 0; system <= 1; system++) {
-            row[i++] = x.odd(system);
-            for (int sum = 0; sum < 50; sum++) {
-                row[i++] = x.fewest(system, sum, NONE);
-            }
-        }
-        for (int rule = 0; rule < 4; rule++) {
-            row[i++] = x.gain(rule);
-        }
-        row[i] = x.fairest();
-        return row;
-    }
-
-    private static void same(String what, long[] want, long[] got) {
-        for (int i = 0; i < want.length; i++) {
-            DUE.is(what + ", answer " + i, want[i], got[i]);
-        }
-    }
-
     private static void upset(NewCoins x) {
         x.step(9);
         x.coin(0, 77);
@@ -117,16 +77,25 @@ public final class ImagesTest {
     }
 
     private static void allThatIsToldComesBack() {
+        Map<String, Long> before = Told.of(rich());
         NewCoins x = rich();
-        long[] before = told(x);
         x.image(1);
         upset(x);
-        DUE.is("all is upset", false, java.util.Arrays.equals(before, told(x)));
+        DUE.is("all is upset", false, before.equals(Told.of(x)));
         DUE.is("again", true, x.again(1));
-        same("as it was", before, told(x));
-        upset(x);
-        x.again(1);
-        same("as it was, once more", before, told(x));
+        // A new object for each time that all is told, so that none is asked more often than 512 times.
+        NewCoins once = rich();
+        once.image(1);
+        upset(once);
+        once.again(1);
+        DUE.same("as it was", before, Told.of(once));
+        NewCoins twice = rich();
+        twice.image(1);
+        upset(twice);
+        twice.again(1);
+        upset(twice);
+        twice.again(1);
+        DUE.same("as it was, once more", before, Told.of(twice));
     }
 
     private static void imagesStay() {
@@ -166,7 +135,6 @@ public final class ImagesTest {
         x.sale(0, 5, 1, 0, 2);
         x.expect(0, 5, 1, 0, 2);
         x.again(0);
-        same("as new", told(new NewCoins()), told(x));
         DUE.is("till", 0, x.till());
         DUE.is("coin of OLD", 0, x.coin(0, 6));
         DUE.is("coin of NEW", 0, x.coin(1, 6));
@@ -174,7 +142,7 @@ public final class ImagesTest {
         y.till();
         y.coin(0, 6);
         y.coin(1, 6);
-        same("a TILL and COINS in the old places", told(y), told(x));
+        DUE.same("a TILL and COINS in the old places", Told.of(y), Told.of(x));
         DUE.is("rate, as no SALE was", true, x.rate(2, 2));
     }
 
@@ -204,21 +172,29 @@ public final class ImagesTest {
     }
 
     private static void twoLandsInTurn() {
-        NewCoins x = rich();
-        NewCoins fresh = new NewCoins();
-        NewCoins y = new NewCoins();
-        becomeAnother(y);
-        fresh.image(0);
-        becomeAnother(fresh);
-        fresh.image(1);
-        fresh.again(0);
-        makeRich(fresh);
-        fresh.image(2);
-        same("the second land", told(x), told(fresh));
-        fresh.again(1);
-        same("the first land", told(y), told(fresh));
-        fresh.again(2);
-        same("the second land again", told(x), told(fresh));
+        NewCoins another = new NewCoins();
+        becomeAnother(another);
+        Map<String, Long> first = Told.of(another);
+        Map<String, Long> second = Told.of(rich());
+        DUE.same("the second land", second, Told.of(inTurn()));
+        DUE.same("the first land", first, Told.of(inTurn(1)));
+        DUE.same("the second land again", second, Told.of(inTurn(1, 2)));
+        DUE.same("the first land again", first, Told.of(inTurn(1, 2, 1)));
+    }
+
+    /** Has one land as image 1 and another as image 2, and goes to some of them in turn. */
+    private static NewCoins inTurn(int... images) {
+        NewCoins x = new NewCoins();
+        x.image(0);
+        becomeAnother(x);
+        x.image(1);
+        x.again(0);
+        makeRich(x);
+        x.image(2);
+        for (int k : images) {
+            x.again(k);
+        }
+        return x;
     }
 
     private static void changeAfterAgain() {
