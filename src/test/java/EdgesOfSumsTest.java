@@ -236,7 +236,7 @@ public final class EdgesOfSumsTest {
         DUE.is("by one COIN more", 6, with(1, 4, 3, 1).odd(1));
         DUE.is("by as many is not odd", NONE, with(1, 3, 2, 1).odd(1));
         DUE.is("a SUM without FEWEST is not odd", NONE, with(1, 4, 2).odd(1));
-        // two of 999: where greedy takes 1000 first; no greater ODD is known below 2000
+        // An ODD is always below the two greatest values together, so none can be above 1998.
         DUE.is("the greatest", 1998, with(1, 1000, 999).odd(1));
         DUE.is("the greatest, by more COINS", 1998, with(1, 1, 1000, 999).odd(1));
         DUE.is("one less", 1996, with(1, 999, 998).odd(1));

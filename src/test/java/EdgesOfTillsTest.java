@@ -28,6 +28,7 @@ public final class EdgesOfTillsTest {
         saleInCoinsThatWerePaid();
         saleNeverGivesOldOnes();
         saleOfTheGreatestChange();
+        saleOfAllThatATillCanHave();
         saleUpTo1000();
         saleOfScraps();
         saleByTheFewest();
@@ -331,6 +332,24 @@ public final class EdgesOfTillsTest {
         DUE.is("2000 and SCRAPS", 2000, y.sale(0, 3, OLD, 0, 3));
         DUE.is("the SCRAPS", 97, y.tell(0, 1));
         DUE.is("2001 and SCRAPS", NONE, y.sale(0, 2, OLD, 0, 3));
+    }
+
+    /** Term 4: the greatest CHANGE in the most COINS, down to "0 .. 1000"'s other end. */
+    private static void saleOfAllThatATillCanHave() {
+        for (int lacking = 0; lacking <= 1; lacking++) {
+            NewCoins x = new NewCoins();
+            x.coin(OLD, 1000);
+            x.coin(NEW, 1);
+            x.coin(NEW, 2);
+            x.till();
+            x.put(0, NEW, 0, 1000 - lacking);
+            x.put(0, NEW, 1, 500);
+            DUE.is("2000 of 1500 COINS", lacking == 0 ? 2000 : NONE, x.sale(0, 1000, OLD, 0, 3));
+            DUE.is("ones left", lacking == 0 ? 0 : 999, x.has(0, NEW, 0));
+            DUE.is("twos left", lacking == 0 ? 0 : 500, x.has(0, NEW, 1));
+            DUE.is("ones given", lacking == 0 ? 1000 : NONE, x.given(0, 0));
+            DUE.is("what was paid", lacking == 0 ? 3 : 0, x.has(0, OLD, 0));
+        }
     }
 
     /** Term 4: "or some COIN would be above 1000". */
