@@ -739,8 +739,9 @@ public final class NewCoins {
         private void slide(int[] from, int[] to, int first, int value, int limit, int most) {
             int head = 0;
             int tail = 0;
-            int place = 0;
-            for (int sum = first; sum <= most; sum += value) {
+            int last = wholeTimes(most - first, value);
+            for (int place = 0; place <= last; place++) {
+                int sum = first + place * value;
                 if (from[sum] != NONE) {
                     int cost = from[sum] - place;
                     while (tail > head && costs[tail - 1] >= cost) {
@@ -754,7 +755,6 @@ public final class NewCoins {
                     head++;
                 }
                 to[sum] = head < tail ? costs[head] + place : NONE;
-                place++;
             }
         }
 

@@ -197,6 +197,9 @@ public final class EdgesOfTillsTest {
         DUE.is("sale at 1", 0, inShop().sale(0, 1, NEW, 1, 1));
         DUE.is("sale at 2000", 0, inShop().sale(0, 2000, NEW, 0, 2));
         DUE.is("sale at 1999", 1, inShop().sale(0, 1999, NEW, 0, 2));
+        NewCoins x = inShop();
+        x.step(7);
+        DUE.is("sale at a price that STEP goes not into", 0, x.sale(0, 1, NEW, 1, 1));
     }
 
     /** Term 4: "paid by n (1 .. 50) of one COIN". */

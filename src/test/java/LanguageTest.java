@@ -28,6 +28,7 @@ public final class LanguageTest {
             DUE.is("the text has " + pattern, false, m.find());
         }
         oneDivision(code);
+        loopsByOne(code);
         lengths(text);
         DUE.end();
     }
@@ -40,6 +41,17 @@ public final class LanguageTest {
             divisions++;
         }
         DUE.is("places that divide", 1, divisions);
+    }
+
+    /** Rule 9: a counter that goes by one ends, whatever the numbers are; one by += 0 would not. */
+    private static void loopsByOne(String code) {
+        Matcher m = Pattern.compile("\\bfor \\([^;]*;[^;]*;([^{]*)\\) \\{").matcher(code);
+        int loops = 0;
+        while (m.find()) {
+            loops++;
+            DUE.is("the loop's step" + m.group(1), true, m.group(1).matches(" \\w+(\\+\\+|--)"));
+        }
+        DUE.is("loops by a counter are found", true, loops > 0);
     }
 
     private static void lengths(String text) {
